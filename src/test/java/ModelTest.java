@@ -1,4 +1,7 @@
-/** Long runs of calls, the same every time, on objects of many sizes, each held against Model. */
+/**
+ * Long runs of calls, the same every time, on objects of many sizes, each held against Model. They
+ * go beyond the document's 512 calls, where answers are free: the class has no end of its own there.
+ */
 public final class ModelTest {
     private static final long LAST = 1L << 60;
     private static final int CALLS = 512;
@@ -6,11 +9,15 @@ public final class ModelTest {
     private static final int[] DRIVERS = {1, 2, 3, 5, 64, 512, 0, 513, -1};
     private static final int[] ROOMS = {1, 2, 4, 7, 16, 40, 100, 1024, 8192, 0, 8193, -7};
 
+    private static final int[] CARRIED_OFTEN = {1, 1, 1, 0, 2};
+
     private long seed;
     private final WaveRows real;
     private final Model model;
     private final int drivers;
-    // Small spans make equal values, equal times and full rows come often.
+    // Small spans make equal values, equal times and full rows come often; a wide run has long delays
+    // and takes all drivers alike, so that many transactions come together.
+    private final boolean wide;
     private final int values;
     private final int spread;
     private final boolean far;
@@ -24,7 +31,8 @@ public final class ModelTest {
         model = new Model(asked, room);
         drivers = model.driverCount();
         values = 1 + pick(3);
-        spread = 2 + pick(12);
+        wide = pick(3) == 0;
+        spread = wide ? 300 : 2 + pick(12);
         far = pick(8) == 0;
         name = "run " + run + " (" + asked + ", " + room + "): ";
     }
@@ -44,7 +52,7 @@ public final class ModelTest {
         return (int) Math.floorMod(seed >>> 33, (long) below);
     }
 
-    /** Mostly few drivers, so that their rows become long; now and then one that there is not. */
+    /** Mostly drivers that there are; now and then one that there is not. */
     private int pickDriver() {
         switch (pick(40)) {
             case 0:
@@ -58,7 +66,7 @@ public final class ModelTest {
             case 4:
                 return pick(drivers);
             default:
-                return pick(Math.min(drivers, 3));
+                return pick(wide ? drivers : Math.min(drivers, 3));
         }
     }
 
@@ -119,7 +127,7 @@ public final class ModelTest {
 
     private void assignOnce(int call) {
         int driver = pickDriver();
-        int mode = pick(30) == 0 ? (pick(2) == 0 ? -1 : 3) : pick(3);
+        int mode = pick(30) == 0 ? (pick(2) == 0 ? -1 : 3) : wide ? CARRIED_OFTEN[pick(CARRIED_OFTEN.length)] : pick(3);
         long limit = pick(20) == 0 ? (pick(2) == 0 ? Long.MIN_VALUE : Long.MAX_VALUE) : pick(spread) - 1;
         compare(call, "assign(" + driver + ", " + mode + ", " + limit + ")",
             () -> real.assign(driver, mode, limit), () -> model.assign(driver, mode, limit));
@@ -138,13 +146,13 @@ public final class ModelTest {
             case 2:
                 return LAST + 1;
             case 3:
-                return far ? LAST - pick(40) : model.now();
+                return far && pick(4) == 0 ? LAST - pick(40) : model.now();
             case 4:
             case 5:
             case 6:
                 return model.next();
             default:
-                return model.now() + pick(spread);
+                return model.now() + pick(wide ? 10 : spread);
         }
     }
 
