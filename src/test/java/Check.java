@@ -7,6 +7,7 @@ final class Check {
 
     private static int asked = 0;
     private static int wrong = 0;
+    private static String about = "";
 
     private Check() {
     }
@@ -49,8 +50,19 @@ final class Check {
         asked++;
         if (!want.equals(got)) {
             wrong++;
-            System.out.println(what + " answered " + got + ", due is " + want);
+            System.out.println(about + what + " answered " + got + ", due is " + want);
         }
+    }
+
+    /** A test of its own for one sentence of the document; it must ask something, and not throw. */
+    static void sentence(String words, Order test) {
+        about = "\"" + words + "\": ";
+        int before = asked;
+        same("the test", DONE, said(test));
+        if (asked == before + 1) {
+            same("the test", "an answer", "nothing");
+        }
+        about = "";
     }
 
     static int wrongSoFar() {
